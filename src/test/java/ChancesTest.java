@@ -49,6 +49,16 @@ public final class ChancesTest {
         C.due("bits of n on do not count", x.sure(120, 0, 0), 3);
         C.due("nor in the others", x.sure(0, 127 - 7, 0), 3);
         C.due("all but them", x.sure(127, 0, 0), 0);
+        x.set(0, 4);
+        Check.type(x, "a<d;b<d;a<c;b<c");
+        C.due("seven that no three questions tell apart", x.sure(0, 0, 0), 4);
+        C.due("any first of those", x.sure(0, 0, 1), 0);
+        C.due("five of them", x.sure(1, 0, 0), 3);
+        x.wipe();
+        x.set(0, 5);
+        Check.type(x, "c<d;c<e;b<d;a<c;a<b;b<e");
+        C.due("eight that no three tell apart", x.sure(0, 0, 0), 4);
+        C.due("a does not do first", x.sure(0, 0, 1), 1);
     }
 
     private static void sureAtTheBound() {

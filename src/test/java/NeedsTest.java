@@ -76,6 +76,9 @@ public final class NeedsTest {
         fault("a<b;c<d;b<c;d<a", 14, 0);
         fault("a<b;a<c;b<d;c<d;a<d", -1, 5);
         fault("f<g;g<f", 6, 0);
+        fault("b<a;a<b", 6, 0);
+        fault("b<a;c<b;a<c", 10, 0);
+        fault("g<a;a<c;c<g", 10, 0);
         fault("a<g;g<b;b<a", 10, 0);
     }
 
@@ -86,6 +89,7 @@ public final class NeedsTest {
         C.due("b for c", x.needed(1, 2, 0), 1);
         C.due("only straight", x.needed(0, 2, 0), 0);
         C.due("not back", x.needed(1, 0, 0), 0);
+        C.due("states of a chain of three, and two more", x.states(-1), 16);
         x.type(';');
         C.due("none with a fault", x.needed(0, 1, 0), 0);
         C.due("all sets are states then", x.states(-1), 32);
@@ -94,6 +98,10 @@ public final class NeedsTest {
         C.due("a for d", x.needed(0, 3, 0), 1);
         x.wipe();
         C.due("none when wiped", x.needed(0, 1, 0), 0);
+        x.type('a');
+        C.due("wiped bytes do not go on", x.fault(), 1);
+        x.type('<');
+        C.due("nor a wiped letter", x.fault(), 2);
     }
 
     private static void beyondN() {

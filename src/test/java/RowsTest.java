@@ -129,7 +129,7 @@ public final class RowsTest {
         C.due("offBy(4)", x.offBy(4), EasyToHard.BAD);
         C.due("lost", x.offBy(3), -11);
         C.due("finding", x.count(8), 1);
-        int[][] wrong = {{}, {0, 1, 2, 3}, {0, 1, 2, 3, 3}, {0, 1, 2, 3, 5}, {-1, 1, 2, 3, 4}, {0, 1, 2, 3, 32},
+        int[][] wrong = {{}, {0, 1, 2, 3}, {0, 1, 2, 3, 3}, {0, 1, 2, 3, 5}, {-1, 1, 2, 3, 4}, {0, 1, 2, 3, 32}, {1, 1, 2, 3, 4},
             {5, 0, 1, 2, 3, 4}};
         for (int[] w : wrong) {
             Check.fill(x, 0, 2, w);
@@ -164,6 +164,12 @@ public final class RowsTest {
         C.due("how much", x.step(2, 1), 2);
         Check.tell(x, 1, "", "", "1100");
         C.due("then the other", x.odd(), 5);
+        EasyToHard y = new EasyToHard();
+        y.set(0, 2);
+        Check.tell(y, 0, "01", "10", "10");
+        C.due("pupil 0, by one", y.odd(), 0);
+        Check.tell(y, 1, "01", "01", "10", "01");
+        C.due("the third, by one", y.odd(), 2);
     }
 
     private static void withoutAndTurned() {
@@ -197,6 +203,12 @@ public final class RowsTest {
         C.due("n of 2 without one", z.without(1, 0), 0);
         C.due("n of 2 with one turned", z.without(0, 1), 0);
         C.due("of like ones the least", z.worst(1), 0);
+        EasyToHard w = new EasyToHard();
+        w.set(0, 3);
+        Check.tell(w, 0, "110", "101", "010", "100");
+        C.due("off with b", w.off(0), 2);
+        C.due("worst is b", w.worst(0), 1);
+        C.due("without b", w.without(1, 0), 0);
     }
 
     private static void turn(EasyToHard x, int question, int time) {

@@ -106,6 +106,7 @@ public final class SheetsTest {
             x.sheet(1, form, 3);
             C.due("copy", x.copy(0, 2, 1, 1, 2), 1);
             items(x, 1, form, 0, 3, 4);
+            C.due("all of it", x.copy(0, 0, 0, 0, 5), 1);
             C.due("forwards in itself", x.copy(0, 0, 0, 1, 4), 1);
             items(x, 0, form, 1, 1, 2, 3, 4);
             C.due("backwards in itself", x.copy(0, 2, 0, 0, 3), 1);
