@@ -2,15 +2,28 @@
 final class Check {
     static final long BAD_LONG = Long.MIN_VALUE + 2, NOT_LONG = Long.MIN_VALUE + 3;
 
+    private String sentence = "";
     private int checked;
     private int wrong;
+
+    /**
+     * Words of the document, of a promise or (0) of what stands ahead of promise 1: what is checked
+     * from here on would fail if they were broken. SentencesTest looks for them in the document.
+     */
+    void says(int promise, String words) {
+        sentence = "promise " + promise + " says '" + words + "': ";
+    }
 
     void due(String call, long got, long want) {
         checked++;
         if (got != want) {
             wrong++;
-            System.out.println(call + " answered " + got + ", due is " + want);
+            System.out.println(sentence + call + " answered " + got + ", due is " + want);
         }
+    }
+
+    void bad(String call, long got) {
+        due(call, got, EasyToHard.BAD);
     }
 
     void holds(String what, boolean isSo) {
@@ -22,6 +35,13 @@ final class Check {
         if (wrong != 0 || checked == 0) {
             System.exit(1);
         }
+    }
+
+    /** An object with n questions. */
+    static EasyToHard of(int n) {
+        EasyToHard x = new EasyToHard();
+        x.set(0, n);
+        return x;
     }
 
     /** Tells answers at a time, a row of a pupil each: 0, 1, anything else: nothing is told. */
