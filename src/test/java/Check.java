@@ -44,6 +44,13 @@ final class Check {
         return x;
     }
 
+    /** An object with n questions and a text of needs. */
+    static EasyToHard typed(int n, String text) {
+        EasyToHard x = of(n);
+        type(x, text);
+        return x;
+    }
+
     /** Tells answers at a time, a row of a pupil each: 0, 1, anything else: nothing is told. */
     static void tell(EasyToHard x, int time, String... rows) {
         for (int pupil = 0; pupil < rows.length; pupil++) {

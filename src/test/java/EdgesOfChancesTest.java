@@ -33,14 +33,8 @@ public final class EdgesOfChancesTest {
         C.finish();
     }
 
-    private static EasyToHard typed(int n, String text) {
-        EasyToHard x = Check.of(n);
-        Check.type(x, text);
-        return x;
-    }
-
     private static EasyToHard told(int n, String text, String... rows) {
-        EasyToHard x = typed(n, text);
+        EasyToHard x = Check.typed(n, text);
         Check.tell(x, 0, rows);
         return x;
     }
@@ -52,7 +46,7 @@ public final class EdgesOfChancesTest {
 
     private static void someQuestionsAndNotOthers() {
         C.says(0, "SURE: who is in one of those STATES that have some QUESTIONS (bits), and not some others (bits),");
-        EasyToHard x = typed(3, "a<b");
+        EasyToHard x = Check.typed(3, "a<b");
         sureIs(x, 0, 0, 3, 0);
         sureIs(x, 1, 0, 2, 1);
         sureIs(x, 2, 0, 1, 2);
@@ -69,46 +63,46 @@ public final class EdgesOfChancesTest {
         C.says(0, "the fewest questions by which one is sure of the STATE in any case;");
         for (int n = 2; n <= 7; n++) {
             int[] want = {0, 0, 2, 2, 3, 3, 3, 3};
-            C.due("a chain of " + n, typed(n, CHAIN).sure(0, 0, 0), want[n]);
+            C.due("a chain of " + n, Check.typed(n, CHAIN).sure(0, 0, 0), want[n]);
         }
         C.says(0, "is asked, one QUESTION behind the other, each by what was answered, and answers as the STATE is:");
-        C.due("not all seven of a chain", typed(7, CHAIN).sure(0, 0, 0), 3);
-        C.due("all sets of two", typed(2, "").sure(0, 0, 0), 2);
-        C.due("all sets of three", typed(3, "").sure(0, 0, 0), 3);
-        C.due("seven that three do not tell apart", typed(4, "a<d;b<d;a<c;b<c").sure(0, 0, 0), 4);
-        C.due("each by what was answered", typed(4, "a<b;a<c;c<d").sure(0, 0, 0), 3);
+        C.due("not all seven of a chain", Check.typed(7, CHAIN).sure(0, 0, 0), 3);
+        C.due("all sets of two", Check.typed(2, "").sure(0, 0, 0), 2);
+        C.due("all sets of three", Check.typed(3, "").sure(0, 0, 0), 3);
+        C.due("seven that three do not tell apart", Check.typed(4, "a<d;b<d;a<c;b<c").sure(0, 0, 0), 4);
+        C.due("each by what was answered", Check.typed(4, "a<b;a<c;c<d").sure(0, 0, 0), 3);
     }
 
     private static void noSuchState() {
         C.says(0, "NOT: there is no such STATE;");
-        EasyToHard x = typed(7, CHAIN);
+        EasyToHard x = Check.typed(7, CHAIN);
         sureIs(x, 1, 1, NOT, NOT);
         sureIs(x, 127, 127, NOT, NOT);
         sureIs(x, 2, 1, NOT, NOT);
         sureIs(x, 64, 32, NOT, NOT);
         sureIs(x, 64, 0, 0, NONE);
         sureIs(x, 32, 64, 0, NONE);
-        sureIs(typed(7, ""), 8, 8, NOT, NOT);
+        sureIs(Check.typed(7, ""), 8, 8, NOT, NOT);
     }
 
     private static void moreThanFourteen() {
         C.says(0, "FULL: more than 14.");
-        EasyToHard x = typed(5, "a<b;b<c;a<d");
+        EasyToHard x = Check.typed(5, "a<b;b<c;a<d");
         C.due("fourteen states", x.states(NONE), 14);
         sureIs(x, 0, 0, 4, 1);
-        EasyToHard y = typed(6, "a<b;c<d;d<e;e<f");
+        EasyToHard y = Check.typed(6, "a<b;c<d;d<e;e<f");
         C.due("fifteen states", y.states(NONE), 15);
         sureIs(y, 0, 0, FULL, FULL);
         sureIs(y, 1, 0, 4, 1);
-        EasyToHard z = typed(6, "a<b;b<c;a<d");
+        EasyToHard z = Check.typed(6, "a<b;b<c;a<d");
         C.due("twice fourteen", z.states(NONE), 28);
         sureIs(z, 0, 0, FULL, FULL);
         sureIs(z, 32, 0, 4, 1);
         sureIs(z, 0, 32, 4, 1);
-        EasyToHard w = typed(7, "a<b;c<d;d<e;e<f");
+        EasyToHard w = Check.typed(7, "a<b;c<d;d<e;e<f");
         sureIs(w, 64, 0, FULL, FULL);
         sureIs(w, 0, 64, FULL, FULL);
-        EasyToHard all = typed(7, "");
+        EasyToHard all = Check.typed(7, "");
         sureIs(all, 0, 0, FULL, FULL);
         sureIs(all, 7, 0, FULL, FULL);
         sureIs(all, 15, 0, 3, 4);
@@ -116,18 +110,18 @@ public final class EdgesOfChancesTest {
 
     private static void firstToAsk() {
         C.says(0, "The FIRST to ask then, of like ones the least;");
-        C.due("any of three", typed(3, "").sure(0, 0, 1), 0);
-        C.due("the middle of eight", typed(7, CHAIN).sure(0, 0, 1), 3);
-        C.due("of seven any that leaves four at most", typed(6, CHAIN).sure(0, 0, 1), 2);
-        C.due("of six likewise", typed(5, CHAIN).sure(0, 0, 1), 1);
-        C.due("of five any", typed(4, CHAIN).sure(0, 0, 1), 0);
-        C.due("the last alone", typed(7, CHAIN).sure(63, 0, 1), 6);
-        C.due("a does not do", typed(5, "c<d;c<e;b<d;a<c;a<b;b<e").sure(0, 0, 1), 1);
+        C.due("any of three", Check.typed(3, "").sure(0, 0, 1), 0);
+        C.due("the middle of eight", Check.typed(7, CHAIN).sure(0, 0, 1), 3);
+        C.due("of seven any that leaves four at most", Check.typed(6, CHAIN).sure(0, 0, 1), 2);
+        C.due("of six likewise", Check.typed(5, CHAIN).sure(0, 0, 1), 1);
+        C.due("of five any", Check.typed(4, CHAIN).sure(0, 0, 1), 0);
+        C.due("the last alone", Check.typed(7, CHAIN).sure(63, 0, 1), 6);
+        C.due("a does not do", Check.typed(5, "c<d;c<e;b<d;a<c;a<b;b<e").sure(0, 0, 1), 1);
     }
 
     private static void noneToAsk() {
         C.says(0, "NONE: none is needed.");
-        EasyToHard x = typed(3, "a<b;b<c");
+        EasyToHard x = Check.typed(3, "a<b;b<c");
         for (int state : new int[] {0, 1, 3, 7}) {
             sureIs(x, state, 7 - state, 0, NONE);
         }
@@ -151,7 +145,7 @@ public final class EdgesOfChancesTest {
         EasyToHard no = told(2, "", "0");
         chanceIs(no, 1, 3, 5, 3, 16);
         chanceIs(no, 0, 3, 5, 11, 16);
-        EasyToHard none = typed(2, "");
+        EasyToHard none = Check.typed(2, "");
         none.answer(0, 0, 2, 0);
         chanceIs(none, 0, 3, 5, 1, 1);
         chanceIs(none, 3, 16, 16, 1, 1);
@@ -209,9 +203,13 @@ public final class EdgesOfChancesTest {
         shareIs(y, 0, 1, 1, 1, 268435456L);
         shareIs(y, 0, 0, 0, 0, 1);
         shareIs(y, 127, 0, 0, 1, 1);
-        EasyToHard z = typed(7, "");
+        // Each question 16 or 15 of 16: together 31 to the seventh, more than an int holds.
+        shareIs(y, 127, 0, 15, 268435456L, 27512614111L);
+        shareIs(y, 0, 0, 15, 170859375L, 27512614111L);
+        shareIs(y, 127, 0, 16, 1, 128);
+        EasyToHard z = Check.typed(7, "");
         shareIs(z, 127, 16, 16, 1, 128);
-        EasyToHard w = typed(7, CHAIN);
+        EasyToHard w = Check.typed(7, CHAIN);
         shareIs(w, 127, 0, 0, 1, 8);
     }
 
@@ -245,6 +243,10 @@ public final class EdgesOfChancesTest {
         C.due("nothing said", x.likeliest(11, 3, 3), 0);
         EasyToHard y = told(7, "", "1111111");
         C.due("all of seven", y.likeliest(0, 1, 1), 127);
+        EasyToHard z = told(7, CHAIN, "0001111");
+        C.due("three slips are likelier than four times luck", z.likeliest(0, 2, 3), 127);
+        C.due("not with fewer slips", z.likeliest(0, 1, 3), 0);
+        C.due("nor with more luck", z.likeliest(0, 2, 4), 0);
     }
 
     private static void lessonsAre(EasyToHard x, int most, int... row) {
@@ -289,7 +291,7 @@ public final class EdgesOfChancesTest {
 
     private static void bestLessons() {
         C.says(0, "BEST LESSONS: the row of k by which the most is learnt, by all PUPILS who gave some ANSWER, together;");
-        EasyToHard x = typed(3, "");
+        EasyToHard x = Check.typed(3, "");
         lessonsAre(x, 0, 0, 0);
         x.answer(0, 0, 2, 0);
         x.answer(1, 3, 0, 0);
@@ -320,7 +322,7 @@ public final class EdgesOfChancesTest {
 
     private static void sure() {
         C.says(24, "SURE: how many (what = 0), the FIRST (1; NONE).");
-        EasyToHard x = typed(3, "a<b;b<c");
+        EasyToHard x = Check.typed(3, "a<b;b<c");
         sureIs(x, 0, 0, 2, 1);
         sureIs(x, 7, 0, 0, NONE);
         C.says(24, "(bits 0 to 127, of n on do not count);");
@@ -334,7 +336,7 @@ public final class EdgesOfChancesTest {
         sureIs(x, 8, 8, NOT, NOT);
         sureIs(x, 8, 0, 2, 1);
         C.says(24, "NOT; FULL.");
-        EasyToHard y = typed(4, "");
+        EasyToHard y = Check.typed(4, "");
         sureIs(y, 1, 1, NOT, NOT);
         sureIs(y, 0, 0, FULL, FULL);
         sureIs(y, 1, 0, 3, 1);
@@ -344,8 +346,8 @@ public final class EdgesOfChancesTest {
         C.says(24, "BAD");
         int[][] wrong = {{-1, 0, 0}, {128, 0, 0}, {0, -1, 0}, {0, 128, 0}, {0, 0, -1}, {0, 0, 2}, {1, 1, 2}, {1, 1, -1},
             {LEAST, 0, 0}, {MOST, 0, 0}, {0, LEAST, 0}, {0, MOST, 0}, {0, 0, LEAST}, {0, 0, MOST}, {129, 1, 0}};
-        EasyToHard few = typed(3, "");
-        EasyToHard many = typed(7, "");
+        EasyToHard few = Check.typed(3, "");
+        EasyToHard many = Check.typed(7, "");
         for (int[] w : wrong) {
             C.bad("sure of " + java.util.Arrays.toString(w), few.sure(w[0], w[1], w[2]));
             C.bad("ahead of FULL: " + java.util.Arrays.toString(w), many.sure(w[0], w[1], w[2]));
@@ -416,7 +418,7 @@ public final class EdgesOfChancesTest {
         lessonsAre(x, 4, 0, 1);
         lessonsAre(x, 6, 0, 1, 2);
         lessonsAre(x, 7, 0, 1, 2, 6);
-        EasyToHard nobody = typed(7, "");
+        EasyToHard nobody = Check.typed(7, "");
         lessonsAre(nobody, 0, 0, 0, 0, 0);
     }
 

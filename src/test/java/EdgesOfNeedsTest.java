@@ -27,21 +27,15 @@ public final class EdgesOfNeedsTest {
         C.finish();
     }
 
-    private static EasyToHard typed(int n, String text) {
-        EasyToHard x = Check.of(n);
-        Check.type(x, text);
-        return x;
-    }
-
     private static void faultOf(String text, int want) {
-        EasyToHard x = typed(5, text);
+        EasyToHard x = Check.typed(5, text);
         C.due("fault of " + text, x.fault(), want);
         C.due("bytes of " + text, x.count(5), text.length());
     }
 
     private static void sixtyBytes() {
         C.says(0, "NEEDS are a text of up to 60 bytes:");
-        EasyToHard x = typed(5, "a<b;".repeat(14) + "b<c");
+        EasyToHard x = Check.typed(5, "a<b;".repeat(14) + "b<c");
         C.due("59 bytes are well", x.fault(), NONE);
         C.due("of 15 parts", x.count(6), 15);
         C.due("the last part is told", x.needed(1, 2, 0), 1);
@@ -56,7 +50,7 @@ public final class EdgesOfNeedsTest {
     private static void signBetweenParts() {
         C.says(0, "parts with ; between them:");
         for (int b = 0; b < 256; b++) {
-            EasyToHard x = typed(5, "a<b");
+            EasyToHard x = Check.typed(5, "a<b");
             x.type(b);
             C.due("byte " + b + " behind a part", x.fault(), b == ';' ? 4 : 3);
             Check.type(x, "c<d");
@@ -87,7 +81,7 @@ public final class EdgesOfNeedsTest {
         C.says(0, "the first one is NEEDED for the second.");
         for (int a = 0; a < 7; a++) {
             int b = (a + 3) % 7;
-            EasyToHard x = typed(7, (char) ('a' + a) + "<" + (char) ('a' + b));
+            EasyToHard x = Check.typed(7, (char) ('a' + a) + "<" + (char) ('a' + b));
             C.due(a + " for " + b, x.needed(a, b, 0), 1);
             C.due(b + " for " + a, x.needed(b, a, 0), 0);
             C.due("with it", x.next(1 << a | 1 << b, 2), 1);
@@ -103,7 +97,7 @@ public final class EdgesOfNeedsTest {
         faultOf("a<x;x", 2);
         faultOf("a<b;c<d;e>f;x", 9);
         faultOf("a<b c<d x", 3);
-        EasyToHard x = typed(5, "a>b;");
+        EasyToHard x = Check.typed(5, "a>b;");
         Check.type(x, "c<d;e<f");
         C.due("a fault stays, whatever comes behind", x.fault(), 1);
     }
@@ -165,14 +159,14 @@ public final class EdgesOfNeedsTest {
     private static void noneWithFault() {
         C.says(0, "With a FAULT none are told.");
         for (String behind : new String[] {";", "x", ";x", ";b<a", ";c", ";c<", ";c<c"}) {
-            EasyToHard x = typed(3, "a<b" + behind);
+            EasyToHard x = Check.typed(3, "a<b" + behind);
             C.due("needed with " + behind, x.needed(0, 1, 0), 0);
             C.due("states with " + behind, x.states(-1), 8);
             C.due("b with " + behind, x.next(2, 2), 1);
             C.due("paths with " + behind, x.paths(), 6);
             C.due("deep with " + behind, x.deep(1), 1);
         }
-        EasyToHard x = typed(3, "a<b;");
+        EasyToHard x = Check.typed(3, "a<b;");
         C.due("not yet", x.states(-1), 8);
         Check.type(x, "b<c");
         C.due("told when it is well again", x.states(-1), 4);
@@ -182,7 +176,7 @@ public final class EdgesOfNeedsTest {
         C.says(0, "Those with letters of n on do not count.");
         for (int n = 2; n <= 6; n++) {
             char beyond = (char) ('a' + n);
-            EasyToHard x = typed(n, "a<" + beyond + ";" + beyond + "<b");
+            EasyToHard x = Check.typed(n, "a<" + beyond + ";" + beyond + "<b");
             C.due("no fault, n of " + n, x.fault(), NONE);
             C.due("all sets, n of " + n, x.states(-1), 1 << n);
             C.due("b, n of " + n, x.deep(1), 1);
@@ -191,7 +185,7 @@ public final class EdgesOfNeedsTest {
             C.due("they count with one more", x.deep(1), 3);
             C.due("for it", x.needed(0, n, 0), 1);
             C.due("it for b", x.needed(n, 1, 0), 1);
-            EasyToHard y = typed(n, "a<" + (char) (beyond - 1));
+            EasyToHard y = Check.typed(n, "a<" + (char) (beyond - 1));
             C.due("the last letter below n counts", y.needed(0, n - 1, 0), 1);
             C.due("in states", y.states(-1), (1 << n) * 3 / 4);
         }
@@ -250,6 +244,14 @@ public final class EdgesOfNeedsTest {
         x.answer(1, 1, 2, 2);
         C.due("told none anew", x.needed(0, 1, 1), 0);
         C.bad("one for itself", x.needed(0, 0, 1));
+        x.set(1, 0);
+        C.due("as of 0 nobody has a and not b", x.needed(0, 1, 1), 0);
+        x.set(1, 1);
+        x.set(2, 0);
+        C.due("as of 1 one has b and not a", x.needed(0, 1, 1), 0);
+        x.answer(3, 0, 1, 2);
+        x.set(1, 2);
+        C.due("as of 2 nobody has", x.needed(0, 1, 1), 1);
         x.set(3, 1);
         C.due("nor in states", x.next(1, 2), 1);
     }
@@ -277,7 +279,7 @@ public final class EdgesOfNeedsTest {
 
     private static void wiping() {
         C.says(7, "NEEDS are empty: how many bytes they had.");
-        EasyToHard x = typed(3, "a<b;b<c");
+        EasyToHard x = Check.typed(3, "a<b;b<c");
         C.due("seven", x.wipe(), 7);
         C.due("none then", x.wipe(), 0);
         C.due("no bytes", x.count(5), 0);
@@ -291,7 +293,16 @@ public final class EdgesOfNeedsTest {
         Check.type(x, "a".repeat(61));
         C.due("sixty", x.wipe(), 60);
         C.due("there is room again", x.type('a'), 1);
-        C.due("a circle is forgotten too", x.fault(), 1);
+        EasyToHard y = Check.typed(3, "a<b;b<c");
+        C.due("states with needs", y.states(-1), 4);
+        C.due("wiped", y.wipe(), 7);
+        C.due("states without", y.states(-1), 8);
+        int[] faults = {1, 2, NONE, 4, 5, 6, NONE};
+        for (int i = 0; i < faults.length; i++) {
+            y.type("b<a;c<b".charAt(i));
+            C.due("what was wiped is not read on, byte " + i, y.fault(), faults[i]);
+        }
+        C.due("nor does it make a circle", y.needed(2, 1, 0), 1);
     }
 
     private static void fault() {
@@ -300,12 +311,12 @@ public final class EdgesOfNeedsTest {
         faultOf("g<f", NONE);
         faultOf("h<f", 0);
         faultOf("g<f;f<g", 6);
-        EasyToHard x = typed(2, "f<g;g<f");
+        EasyToHard x = Check.typed(2, "f<g;g<f");
         C.due("of letters of n on", x.fault(), 6);
     }
 
     private static void needed() {
-        EasyToHard x = typed(3, "a<b;b<c");
+        EasyToHard x = Check.typed(3, "a<b;b<c");
         Check.tell(x, 0, "011", "001");
         C.says(9, "Whether a is NEEDED for b (below n), straight, as told (which = 0), as FOUND (1): 1, 0.");
         int[][] told = {{0, 1, 1}, {1, 2, 1}, {0, 2, 0}, {1, 0, 0}, {2, 1, 0}, {2, 0, 0}};

@@ -149,6 +149,12 @@ public final class EdgesOfRowsTest {
         fraction(told(2, "0-", "-1"), 1, 1, 1);
         fraction(told(2, "01", "01", "11", "10"), 1, 5, 8);
         fraction(told(2, "0--", "1-1", "--1"), 1, 1, 2);
+        EasyToHard x = told(2, "10", "01", "01");
+        fraction(x, 1, 2, 3);
+        Check.tell(x, 1, "01", "", "", "-1", "0-");
+        fraction(x, 1, 1, 1);
+        x.set(1, 0);
+        fraction(x, 1, 2, 3);
     }
 
     private static void noAnswers() {
@@ -339,6 +345,9 @@ public final class EdgesOfRowsTest {
         C.due("not by the best", y.offBy(0), 2);
         Check.fill(y, 0, 0, 0, 1);
         C.due("by the best", y.offBy(0), 1);
+        y.answer(11, 1, 1, 0);
+        y.answer(11, 0, 0, 0);
+        C.due("the last pupil too", y.offBy(0), 2);
         x.sheet(1, 0, 60);
         C.due("0 each", x.offBy(1), EasyToHard.NOT);
     }

@@ -502,31 +502,6 @@ public final class EdgesOfSheetsTest {
         }
     }
 
-    private static long joined(long h, long... parts) {
-        long all = h;
-        for (long part : parts) {
-            all = 31 * all + part;
-        }
-        return all;
-    }
-
-    private static long byCalls(EasyToHard x) {
-        long h = joined(17, x.count(0), x.count(1), x.count(2), x.count(3), x.count(4), x.count(5), x.count(6), x.count(7));
-        h = joined(h, x.fault());
-        for (int p = 0; p < 12; p++) {
-            h = joined(h, x.step(p, 0), x.step(p, 1), x.belongs(p, 0), x.belongs(p, 1), x.belongs(p, 2));
-            h = joined(h, x.likeliest(p, 2, 3));
-        }
-        h = joined(h, x.off(0), x.off(1));
-        int n = x.count(0);
-        for (int q = 0; q < n; q++) {
-            int next = q + 1 == n ? 0 : q + 1;
-            h = joined(h, x.row(q), x.without(q, 0), x.without(q, 1), x.deep(q), x.needed(q, next, 0), x.needed(q, next, 1));
-        }
-        h = joined(h, x.fit(0, 0), x.fit(0, 1), x.fit(1, 0), x.fit(1, 1), x.odd(), x.worst(0), x.worst(1));
-        return joined(h, x.states(NONE), x.paths(), x.sure(0, 0, 0), x.sure(0, 0, 1), x.lessons(2, NONE));
-    }
-
     private static void digest() {
         C.says(36, "h is 17; h becomes 31 h and each of: count() 0 to 7; fault(); of PUPILS step() 0, 1, "
                 + "belongs() 0 to 2, likeliest(it, 2, 3); off() 0, 1, of QUESTIONS below n row(), without() 0, 1, "
@@ -535,13 +510,17 @@ public final class EdgesOfSheetsTest {
             EasyToHard x = Check.of(n);
             Check.type(x, (char) ('a' + n - 1) + "<a");
             Check.tell(x, n, "1100111", "1010101", "0101010", "1110", "0001", "1", "0000001", "", "0", "01", "", "10");
-            C.due("n of " + n, x.digest(), byCalls(x));
+            C.due("n of " + n, x.digest(), SheetsTest.byHand(x));
             x.set(3, 1);
             x.set(2, 1);
-            C.due("by found needs, n of " + n, x.digest(), byCalls(x));
+            C.due("by found needs, n of " + n, x.digest(), SheetsTest.byHand(x));
             x.set(1, n - 1);
-            C.due("before the answers, n of " + n, x.digest(), byCalls(x));
+            C.due("before the answers, n of " + n, x.digest(), SheetsTest.byHand(x));
         }
+        EasyToHard x = Check.of(7);
+        Check.type(x, "a<b;b<c;c<d;d<e;e<f;f<g");
+        Check.tell(x, 0, "0001111");
+        C.due("likeliest by just these chances", x.digest(), SheetsTest.byHand(x));
     }
 
     private static void digestAsTold() {
@@ -549,12 +528,12 @@ public final class EdgesOfSheetsTest {
                 + "sure(0, 0, 0 and 1) (as it is told), lessons(2, NONE); as longs that wrap.");
         EasyToHard x = new EasyToHard();
         C.due("no fit, and too many to be sure of", x.fit(0, 0) + x.sure(0, 0, 0), Check.NOT_LONG - 4);
-        C.due("a new object", x.digest(), byCalls(x));
+        C.due("a new object", x.digest(), SheetsTest.byHand(x));
         Check.type(x, "a<b;b<c;c<d;d<e");
         C.due("sure by three", x.sure(0, 0, 0), 3);
-        C.due("a chain", x.digest(), byCalls(x));
+        C.due("a chain", x.digest(), SheetsTest.byHand(x));
         x.type('x');
-        C.due("a fault", x.digest(), byCalls(x));
+        C.due("a fault", x.digest(), SheetsTest.byHand(x));
         long was = x.digest();
         x.lose(0);
         C.due("count() 8 is not in it", x.digest(), was);

@@ -25,12 +25,6 @@ public final class EdgesOfStatesTest {
         C.finish();
     }
 
-    private static EasyToHard typed(int n, String text) {
-        EasyToHard x = Check.of(n);
-        Check.type(x, text);
-        return x;
-    }
-
     private static void statesAre(EasyToHard x, int... want) {
         C.due("how many states", x.states(NONE), want.length);
         for (int i = 0; i < want.length; i++) {
@@ -42,21 +36,21 @@ public final class EdgesOfStatesTest {
 
     private static void allThatAreNeeded() {
         C.says(0, "STATES: SETS in which with each QUESTION all are that are NEEDED for it");
-        statesAre(typed(2, ""), 0, 1, 2, 3);
-        statesAre(typed(2, "a<b"), 0, 1, 3);
-        statesAre(typed(2, "b<a"), 0, 2, 3);
-        statesAre(typed(3, "a<c;b<c"), 0, 1, 2, 3, 7);
-        statesAre(typed(3, "c<a;c<b"), 0, 4, 5, 6, 7);
-        statesAre(typed(7, CHAIN), 0, 1, 3, 7, 15, 31, 63, 127);
-        statesAre(typed(2, CHAIN), 0, 1, 3);
-        EasyToHard x = typed(7, "");
+        statesAre(Check.typed(2, ""), 0, 1, 2, 3);
+        statesAre(Check.typed(2, "a<b"), 0, 1, 3);
+        statesAre(Check.typed(2, "b<a"), 0, 2, 3);
+        statesAre(Check.typed(3, "a<c;b<c"), 0, 1, 2, 3, 7);
+        statesAre(Check.typed(3, "c<a;c<b"), 0, 4, 5, 6, 7);
+        statesAre(Check.typed(7, CHAIN), 0, 1, 3, 7, 15, 31, 63, 127);
+        statesAre(Check.typed(2, CHAIN), 0, 1, 3);
+        EasyToHard x = Check.typed(7, "");
         C.due("as many as there can be", x.states(NONE), 128);
         C.due("the last of them", x.states(127), 127);
     }
 
     private static void byWhichNeeds() {
         C.says(0, "(by WHICH needs).");
-        EasyToHard x = typed(3, "a<b");
+        EasyToHard x = Check.typed(3, "a<b");
         Check.tell(x, 0, "-10");
         statesAre(x, 0, 1, 3, 4, 5, 7);
         x.set(3, 1);
@@ -75,7 +69,7 @@ public final class EdgesOfStatesTest {
 
     private static void belongsToTheFewest() {
         C.says(0, "BELONGS: of a PUPIL the STATE with the fewest ERRORS,");
-        EasyToHard x = typed(3, "a<b;b<c");
+        EasyToHard x = Check.typed(3, "a<b;b<c");
         Check.tell(x, 0, "111", "000", "110", "011", "101");
         belongsIs(x, 0, 7, 0, 1);
         belongsIs(x, 1, 0, 0, 1);
@@ -86,24 +80,24 @@ public final class EdgesOfStatesTest {
 
     private static void belongsToTheLeast() {
         C.says(0, "of like ones the least as bits;");
-        EasyToHard x = typed(3, "c<a;c<b");
+        EasyToHard x = Check.typed(3, "c<a;c<b");
         Check.tell(x, 0, "1--", "-1-", "--1", "11-", "110", "010", "---");
         int[] want = {5, 6, 4, 7, 7, 0, 0};
         for (int pupil = 0; pupil < want.length; pupil++) {
             C.due("belongs(" + pupil + ", 0)", x.belongs(pupil, 0), want[pupil]);
         }
-        EasyToHard y = typed(2, "b<a");
+        EasyToHard y = Check.typed(2, "b<a");
         Check.tell(y, 0, "10");
         C.due("by bits, not by how many", y.belongs(0, 0), 0);
         C.due("of two", y.belongs(0, 2), 2);
-        EasyToHard z = typed(4, "a<b;b<c");
+        EasyToHard z = Check.typed(4, "a<b;b<c");
         Check.tell(z, 0, "0110");
         C.due("of 0, 7 and 3 the one with the fewest", z.belongs(0, 0), 7);
     }
 
     private static void howManyHaveSoFew() {
         C.says(0, "how many ERRORS; how many STATES have so few.");
-        EasyToHard x = typed(3, "a<b;b<c");
+        EasyToHard x = Check.typed(3, "a<b;b<c");
         belongsIs(x, 0, 0, 0, 4);
         Check.tell(x, 0, "001", "01", "010", "0");
         belongsIs(x, 0, 0, 1, 1);
@@ -113,7 +107,7 @@ public final class EdgesOfStatesTest {
         x.set(0, 7);
         x.wipe();
         belongsIs(x, 11, 0, 0, 128);
-        EasyToHard y = typed(7, "g<a;g<b;g<c;g<d;g<e;g<f");
+        EasyToHard y = Check.typed(7, "g<a;g<b;g<c;g<d;g<e;g<f");
         Check.tell(y, 0, "1110000");
         belongsIs(y, 0, 71, 1, 1);
         Check.tell(y, 1, "1000000");
@@ -122,35 +116,35 @@ public final class EdgesOfStatesTest {
 
     private static void nextOnes() {
         C.says(0, "NEXT to a SET: QUESTIONS not in it with which it would be a STATE;");
-        EasyToHard x = typed(3, "a<b;b<c");
+        EasyToHard x = Check.typed(3, "a<b;b<c");
         int[] want = {1, 2, 1, 4, 0, 2, 1, 0};
         for (int set = 0; set < 8; set++) {
             C.due("next(" + set + ", 0)", x.next(set, 0), want[set]);
         }
-        EasyToHard y = typed(7, "");
+        EasyToHard y = Check.typed(7, "");
         C.due("to nothing", y.next(0, 0), 127);
         C.due("to all", y.next(127, 0), 0);
     }
 
     private static void lastOnes() {
         C.says(0, "LAST: those in it without which it would be one.");
-        EasyToHard x = typed(3, "a<b;b<c");
+        EasyToHard x = Check.typed(3, "a<b;b<c");
         int[] want = {0, 1, 2, 2, 4, 4, 0, 4};
         for (int set = 0; set < 8; set++) {
             C.due("next(" + set + ", 1)", x.next(set, 1), want[set]);
         }
-        EasyToHard y = typed(7, "");
+        EasyToHard y = Check.typed(7, "");
         C.due("of nothing", y.next(0, 1), 0);
         C.due("of all", y.next(127, 1), 127);
     }
 
     private static void pathsByStates() {
         C.says(0, "PATHS: in how many ways one comes from nothing to all QUESTIONS, one by one, by STATES alone.");
-        C.due("a chain", typed(7, CHAIN).paths(), 1);
-        C.due("a and b in any order, then c", typed(3, "a<c;b<c").paths(), 2);
-        C.due("two chains of two", typed(4, "a<b;c<d").paths(), 6);
-        C.due("all for g", typed(7, "a<g;b<g;c<g;d<g;e<g;f<g").paths(), 720);
-        C.due("as many as there can be", typed(7, "").paths(), 5040);
+        C.due("a chain", Check.typed(7, CHAIN).paths(), 1);
+        C.due("a and b in any order, then c", Check.typed(3, "a<c;b<c").paths(), 2);
+        C.due("two chains of two", Check.typed(4, "a<b;c<d").paths(), 6);
+        C.due("all for g", Check.typed(7, "a<g;b<g;c<g;d<g;e<g;f<g").paths(), 720);
+        C.due("as many as there can be", Check.typed(7, "").paths(), 5040);
     }
 
     /** Found with a slack of one: a is needed for b, b for c, c for a; each by two pupils against one. */
@@ -175,11 +169,11 @@ public final class EdgesOfStatesTest {
 
     private static void deepest() {
         C.says(0, "DEEP of a QUESTION: the least number of QUESTIONS of a STATE that has it.");
-        EasyToHard x = typed(7, CHAIN);
+        EasyToHard x = Check.typed(7, CHAIN);
         for (int question = 0; question < 7; question++) {
             C.due("deep(" + question + ")", x.deep(question), question + 1);
         }
-        EasyToHard y = typed(4, "a<d;b<d");
+        EasyToHard y = Check.typed(4, "a<d;b<d");
         C.due("two and itself", y.deep(3), 3);
         C.due("itself alone", y.deep(2), 1);
         EasyToHard z = circle();
@@ -189,7 +183,7 @@ public final class EdgesOfStatesTest {
     private static void states() {
         C.says(19, "STATES: how many (i = NONE), the i-th (0 on, the least first); NONE beyond.");
         for (int n = 2; n <= 7; n++) {
-            EasyToHard x = typed(n, "");
+            EasyToHard x = Check.typed(n, "");
             int all = 1 << n;
             C.due("how many, n of " + n, x.states(-1), all);
             C.due("the first, n of " + n, x.states(0), 0);
@@ -198,7 +192,7 @@ public final class EdgesOfStatesTest {
             C.due("beyond, n of " + n, x.states(all), NONE);
             C.due("far beyond, n of " + n, x.states(MOST), NONE);
         }
-        EasyToHard x = typed(2, "a<b");
+        EasyToHard x = Check.typed(2, "a<b");
         C.due("the last of three", x.states(2), 3);
         C.due("beyond three", x.states(3), NONE);
     }
@@ -212,7 +206,7 @@ public final class EdgesOfStatesTest {
     }
 
     private static void belongs() {
-        EasyToHard x = typed(2, "a<b");
+        EasyToHard x = Check.typed(2, "a<b");
         x.answer(0, 1, 1, 0);
         x.answer(11, 0, 0, 0);
         x.answer(11, 1, 1, 0);
@@ -230,7 +224,7 @@ public final class EdgesOfStatesTest {
     private static void next() {
         C.says(21, "NEXT to a SET (0 to 127; bits of n on do not count) (what = 0), LAST (1), as bits; "
                 + "whether it is a STATE (2).");
-        EasyToHard x = typed(3, "a<b;b<c");
+        EasyToHard x = Check.typed(3, "a<b;b<c");
         int[] isState = {1, 1, 0, 1, 0, 0, 0, 1};
         for (int beyond = 0; beyond <= 120; beyond += 8) {
             for (int set = 0; set < 8; set++) {
@@ -268,7 +262,7 @@ public final class EdgesOfStatesTest {
 
     private static void deep() {
         for (int n = 2; n <= 7; n++) {
-            EasyToHard x = typed(n, CHAIN);
+            EasyToHard x = Check.typed(n, CHAIN);
             C.says(23, "DEEP.");
             C.due("the first, n of " + n, x.deep(0), 1);
             C.due("the last, n of " + n, x.deep(n - 1), n);

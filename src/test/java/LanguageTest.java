@@ -9,7 +9,10 @@ public final class LanguageTest {
     private static final Check C = new Check();
     private static final String[] BANNED = {"throw", "throws", "try", "catch", "finally", "synchronized", "assert",
         "package", "protected", "volatile", "native", "Object", "Exception", "Throwable", "Thread", "Random",
-        "equals", "hashCode", "toString", "double", "float", "String"};
+        "hashCode"};
+    private static final String LIBRARY = "System\\.arraycopy|Arrays\\.(fill|copyOf|copyOfRange)"
+            + "|(Math|Integer|Long)\\.(min|max|abs|signum|compare|bitCount|floorDiv|floorMod|numberOfTrailingZeros"
+            + "|numberOfLeadingZeros|highestOneBit|lowestOneBit)";
     private static final Pattern METHOD = Pattern.compile(
             "(?m)^( +)(?:public |private |static |final )*[\\w\\[\\]]+ ?\\w*\\(([^;{}]*?)\\) \\{$");
 
@@ -37,7 +40,7 @@ public final class LanguageTest {
         C.holds("no function of the Exact kind", !code.contains("Exact("));
         Matcher imports = Pattern.compile("(?m)^import (.*);$").matcher(code);
         while (imports.find()) {
-            C.holds("import " + imports.group(1), imports.group(1).equals("java.util.Arrays"));
+            C.holds("import " + imports.group(1), imports.group(1).matches("java\\.util\\.(Arrays|ArrayList|List|Iterator)"));
         }
     }
 
@@ -45,8 +48,7 @@ public final class LanguageTest {
         Matcher calls = Pattern.compile("\\b(System|Arrays|Math|Integer|Long)\\.(\\w+)\\(").matcher(code);
         while (calls.find()) {
             String call = calls.group(1) + "." + calls.group(2);
-            C.holds(call, call.matches("System\\.arraycopy|Arrays\\.fill|Math\\.(min|max)"
-                    + "|Integer\\.(bitCount|numberOfTrailingZeros)"));
+            C.holds(call, call.matches(LIBRARY));
         }
     }
 
@@ -65,6 +67,6 @@ public final class LanguageTest {
             int parameters = m.group(2).isBlank() ? 0 : m.group(2).split(",").length;
             C.holds(head + " has " + parameters + " parameters", parameters <= 7);
         }
-        C.holds("methods were found: " + found, found > 80);
+        C.holds("methods were found: " + found, found > 36);
     }
 }

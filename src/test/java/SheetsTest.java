@@ -183,7 +183,8 @@ public final class SheetsTest {
         C.due("as of 2: tellings", x.count(1), 7);
     }
 
-    private static long byHand(EasyToHard x) {
+    /** The digest, call by call. */
+    static long byHand(EasyToHard x) {
         long[] h = {17};
         for (int what = 0; what < 8; what++) {
             add(h, x.count(what));
